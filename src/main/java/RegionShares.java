@@ -18,7 +18,7 @@ public final class RegionShares {
     private final int[] breakers;
 
     private final int[] batchOf;
-    /** The regions that a batch's members touch together; stale from batchCount on. */
+    /** The regions that a batch's members touch together; none for a batch that has no members. */
     private final int[] batchRegions;
     private int batchCount;
 
@@ -157,26 +157,26 @@ public final class RegionShares {
     }
 
     private void sortIntoBatches() {
+        for (int batch = 0; batch < shares; batch++) {
+            batchRegions[batch] = 0;
+        }
         batchCount = 0;
         for (int share = 0; share < shares; share++) {
-            int batch = lowestBatchApartFrom(regions[share]);
-            if (batch == batchCount) {
-                batchRegions[batch] = 0;
-                batchCount++;
-            }
+            int batch = lowestBatchFor(share);
             batchRegions[batch] |= regions[share];
             batchOf[share] = batch;
+            batchCount = Math.max(batchCount, batch + 1);
         }
     }
 
-    /** The count of batches so far, which is a new batch's number, when there is none. */
-    private int lowestBatchApartFrom(int touched) {
-        for (int batch = 0; batch < batchCount; batch++) {
-            if ((batchRegions[batch] & touched) == 0) {
+    /** At most the share's own number, since no more batches than that have members ahead of it. */
+    private int lowestBatchFor(int share) {
+        for (int batch = 0; batch < share; batch++) {
+            if ((batchRegions[batch] & regions[share]) == 0) {
                 return batch;
             }
         }
-        return batchCount;
+        return share;
     }
 
     private void forgetBegun() {
